@@ -93,9 +93,21 @@ public final class AskedTest {
         due.is("9999 more", x.can(3), 9999);
         x.set(3, 3, 90001);
         due.is("9998 more", x.can(3), 9998);
+        sweep();
         due.is("can(0)", x.can(0), -5);
         due.is("can(4)", x.can(4), -1);
         due.is("can(-1)", x.can(-1), -1);
+    }
+
+    /** Two threads of one kind without twist: half of what there is. */
+    private static void sweep() {
+        YarnPlier x = Scenes.twists(0);
+        Scenes.plied(x, 0, 0, 0);
+        for (int i = 0; i < 200; i++) {
+            int stock = i < 60 ? i : i * 107;
+            x.set(3, 0, stock);
+            due.is("can(1) of " + stock, x.can(1), Math.min(9999, stock / 2));
+        }
     }
 
     private static void alike() {
@@ -118,13 +130,22 @@ public final class AskedTest {
         Scenes.plied(x, 0, 6, 9); // 12
         Scenes.plied(x, 0, 7, 9); // 13
         Scenes.plied(x, 0, 8, 8); // 14
+        Scenes.plied(x, 7, 3, 2); // 15
         int[][] plied = {{6, 7, 1, 0}, {6, 8, 0, 1}, {6, 9, 0, 0}, {8, 9, 0, 0}, {6, 10, 0, 0}, {10, 6, 0, 0}, {6, 11, 0, 0},
-            {12, 13, 1, 0}, {12, 14, 0, 0}, {0, 6, 0, 0}, {6, 0, 0, 0}, {12, 6, 0, 0}};
+            {12, 13, 1, 0}, {12, 14, 0, 0}, {0, 6, 0, 0}, {6, 0, 0, 0}, {12, 6, 0, 0}, {6, 15, 0, 0}, {15, 6, 0, 0}};
         ask(x, plied);
-        int[][] bad = {{-1, 0, 0}, {15, 0, 0}, {0, -1, 0}, {0, 15, 0}, {0, 0, 2}, {0, 0, -1}};
+        int[][] bad = {{-1, 0, 0}, {16, 0, 0}, {0, -1, 0}, {0, 16, 0}, {0, 0, 2}, {0, 0, -1}};
         for (int[] b : bad) {
             due.is("bad alike", x.alike(b[0], b[1], b[2]), -1);
         }
+        YarnPlier deep = Scenes.deep();
+        deep.thread(0, 1, -1);
+        Scenes.plied(deep, -1, 4, 4);
+        Scenes.plied(deep, -1, 5, 4);
+        Scenes.plied(deep, -1, 6, 4);
+        Scenes.plied(deep, -1, 6, 0);
+        int[][] deepest = {{3, 3, 1, 0}, {3, 7, 0, 1}, {7, 3, 0, 1}, {3, 8, 0, 0}, {7, 8, 0, 0}, {2, 6, 0, 1}, {3, 2, 0, 0}};
+        ask(deep, deepest);
     }
 
     private static void ask(YarnPlier x, int[][] wants) {
@@ -179,6 +200,17 @@ public final class AskedTest {
         due.is("steps stay", x.count(4), 1);
         x.set(3, 1, 99999);
         due.is("make(3, 9999)", x.make(3, 9999), 328 + 9999);
+        YarnPlier widest = Scenes.widest();
+        widest.thread(0, 1, 1);
+        widest.thread(0, 1, 1);
+        Scenes.plied(widest, 0, 13, 14);
+        for (int i = 0; i < 16; i++) {
+            widest.set(3, i, 10);
+        }
+        due.is("16 yarns", widest.make(15, 10), 20);
+        due.is("16 yarns", widest.of(13, 3), 0);
+        due.is("16 yarns", widest.of(0, 3), 10);
+        due.is("16 yarns: one lacks", widest.make(15, 1), -5);
     }
 
     public static void main(String[] args) {

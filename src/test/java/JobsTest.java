@@ -83,6 +83,11 @@ public final class JobsTest {
         due.is("strike(2)", x.strike(2), 0);
         due.is("strike(3)", x.strike(3), 2);
         due.is("count(3)", x.count(3), 0);
+        for (int i = 1; i <= 8; i++) {
+            x.job(i == 8 ? 2 : 3, i);
+        }
+        due.is("of eight", x.strike(2), 1);
+        due.is("of seven", x.strike(3), 7);
     }
 
     private static void about() {

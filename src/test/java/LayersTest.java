@@ -99,6 +99,7 @@ public final class LayersTest {
         due.is("the least", laid(4, 10, 10).turned(), 1);
         due.is("the last", laid(1, 5, 40).turned(), 2);
         due.is("none there", new YarnPlier().turned(), -2);
+        due.is("eight", laid(1, 1, 1, 1, 1, 1, 1, 99).turned(), 7);
         YarnPlier x = laid(4, 10, 10);
         x.turned();
         due.is("nothing changes", x.worst(), 24);
@@ -137,6 +138,7 @@ public final class LayersTest {
         due.is("the least", x.fits(0, 2, 1, 1, 2), 1);
         due.is("nothing changes", x.torque(3), 535);
         silk();
+        forty();
         refusals(x);
     }
 
@@ -152,6 +154,19 @@ public final class LayersTest {
         row(x, 0, 0, 0);
         due.is("1", x.fits(0, 2, 0, 0, 2), 1);
         due.is("1 alone", x.fits(0, 2, 0, 0, 1), 1);
+    }
+
+    private static void forty() {
+        YarnPlier x = Scenes.cable();
+        row(x, 0, new int[40]);
+        for (int t = 0; t < 40; t++) {
+            x.put(0, t, 711 + 44 * t);
+        }
+        due.is("40 places", x.fits(0, 40, 3, 2, 0), 1);
+        due.is("40 places", x.fits(0, 40, 3, 16 + 2, 2), 5);
+        x.put(0, 39, 0);
+        due.is("the last is not so", x.fits(0, 40, 3, 2, 0), 0);
+        due.is("39 are", x.fits(0, 39, 3, 2, 0), 1);
     }
 
     private static void refusals(YarnPlier x) {

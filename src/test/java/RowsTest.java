@@ -9,6 +9,7 @@ public final class RowsTest {
         due.is("no place", x.put(0, 0, 1), -13);
         due.is("row(2, 40)", x.row(2, 40), 1);
         due.is("put(2, 39, 5)", x.put(2, 39, 5), 1);
+        due.is("put(2, 0, 6)", x.put(2, 0, 6), 1);
         due.is("row(2, 41)", x.row(2, 41), -1);
         due.is("row(2, MAX)", x.row(2, Scenes.MAX), -1);
         due.is("row(2, -2)", x.row(2, -2), -14);
@@ -19,6 +20,7 @@ public final class RowsTest {
         due.is("row(-1, -2)", x.row(-1, -2), -1);
         due.is("row(2, 40) anew", x.row(2, 40), 1);
         due.is("all 0", x.get(2, 39), 0);
+        due.is("all 0", x.get(2, 0), 0);
         due.is("row(2, -1)", x.row(2, -1), 1);
         due.is("missing", x.put(2, 0, 1), -11);
         due.is("missing once more", x.row(2, -1), 1);
@@ -64,6 +66,11 @@ public final class RowsTest {
             due.is("get(1, " + t + ")", x.get(1, t), 711 + 44 * t);
         }
         due.is("nothing else changes", x.torque(3), 535);
+        x.row(2, 1);
+        x.put(2, 0, 8);
+        x.film(1, 40, 3, 2);
+        due.is("the row behind it", x.get(2, 0), 8);
+        due.is("film(2, 40, ..)", x.film(2, 40, 3, 2), 40);
         x.film(1, 2, 1, 1);
         due.is("a thread in itself", x.get(1, 1), 10);
         due.is("its size", x.get(1, 2), Scenes.VOID);
@@ -177,6 +184,8 @@ public final class RowsTest {
         x.set(0, 8, -3);
         due.is("count(6): 9 is balanced", x.count(6), 4);
         due.is("tally stays", x.tally(0), 3);
+        x.set(0, 0, 0);
+        due.is("count(6): 0 is balanced", x.count(6), 5);
         due.is("count(7)", x.count(7), -1);
         due.is("count(-1)", x.count(-1), -1);
     }

@@ -41,6 +41,18 @@ final class Scenes {
         return x;
     }
 
+    /** 4 threads, 4 of depth 1, 4 of depth 2, and 12: 85 places, no two parts of one place alike. */
+    static YarnPlier widest() {
+        YarnPlier x = twists(1, 10, -7, 30);
+        for (int level = 0; level < 2; level++) {
+            for (int i = 0; i < 4; i++) {
+                plied(x, 5 * i - 8 + level, 4 * level, 4 * level + 1, 4 * level + 2, 4 * level + 3);
+            }
+        }
+        plied(x, 2, 8, 9, 10, 11);
+        return x;
+    }
+
     static int text(YarnPlier x, String text) {
         for (char letter : text.toCharArray()) {
             x.feed(letter);

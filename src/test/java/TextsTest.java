@@ -49,6 +49,24 @@ public final class TextsTest {
         }
     }
 
+    /** What was on the tape before counts for nothing. */
+    private static void faultsBehindOthers() {
+        Object[][] rows = {{"s0,7;s0,8", "s0,7;", 5}, {"s0,7", "s0", 2}, {"s0,7", "s0,", 3}, {"t0,1,-1", "t0,1,", 5}, {"t0,1,-1", "t0,1,-", 6},
+            {"p0,1:1", "p0,1", 4}, {"p0,1:1", "p0", 2}, {"m0,1", "m", 1}, {"s0,7", "", 0}};
+        for (Object[] r : rows) {
+            YarnPlier x = Scenes.cable();
+            for (char letter : ((String) r[0]).toCharArray()) {
+                x.feed(letter);
+            }
+            x.wipe();
+            due.is("'" + r[1] + "' behind '" + r[0] + "'", Scenes.text(x, (String) r[1]), -100 - (Integer) r[2]);
+        }
+        YarnPlier x = Scenes.cable();
+        Scenes.text(x, "s0,123");
+        due.is("shorter than the one before", Scenes.text(x, "s0,1"), 1);
+        due.is("its stock", x.of(0, 3), 1);
+    }
+
     private static void done() {
         YarnPlier x = new YarnPlier();
         due.is("acts", Scenes.text(x, "t0,10,20;t1,00005,-3;p0,1:-4;p2,2,00000:3;s0,1000;s1,1000;m3,328"), 7);
@@ -128,6 +146,7 @@ public final class TextsTest {
         wipe();
         due.part("promise 35");
         faults();
+        faultsBehindOthers();
         done();
         refused();
         bundle();

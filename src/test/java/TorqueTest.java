@@ -59,6 +59,13 @@ public final class TorqueTest {
         }
         // 64 of 78408; 16 of 4 times 297; 4 of 4 times 198; 4 times 99
         due.is("the greatest", most.torque(3), 64 * 78408 + 16 * 1188 + 4 * 792 + 396);
+        // all turns together, of plied ones 4 times: twists -8, -3, 2, 7 and -7, -2, 3, 8, and 2
+        // 4 * 2; 4 * (2 + 4 * 2); 4 * (4 * -2 + 4 * 2 + 16 * 2); 16 * 34 + 16 * -2 + 16 * 2 + 64 * 2
+        YarnPlier widest = Scenes.widest();
+        due.is("85 places", widest.torque(12), 8 + 40 + 128 + 672);
+        due.is("its leaves", widest.of(12, 6), 64);
+        due.is("the last leaf: 30, 7, 8, 2", widest.leaf(12, 63, 1), 47);
+        due.is("the first leaf: 1, -8, -7, 2", widest.leaf(12, 0, 1), -12);
     }
 
     private static void tally() {
@@ -92,6 +99,13 @@ public final class TorqueTest {
         x.torque(1);
         due.is("behind torque(1)", x.tally(0), 0);
         due.is("behind torque(1)", x.tally(1), 1);
+        x.torque(2);
+        x.torque(0);
+        due.is("behind torque(0)", x.tally(0), 1);
+        due.is("behind torque(0)", x.tally(1), 0);
+        YarnPlier widest = Scenes.widest();
+        widest.torque(12);
+        due.is("85 places", widest.tally(0), 64);
     }
 
     private static void kept() {
@@ -131,6 +145,7 @@ public final class TorqueTest {
         due.is("needs(3, 4, 100)", x.needs(3, 4, 100), 101);
         due.is("needs(3, 4, 991): no rest", x.needs(3, 4, 991), 1000);
         due.is("needs(3, 4, 992)", x.needs(3, 4, 992), 1002);
+        due.is("a rest of 1: 881000 by 991", x.needs(3, 4, 881), 890);
         due.is("needs(3, 0, 0)", x.needs(3, 0, 0), 0);
         due.is("needs(0, 0, 9999)", x.needs(0, 0, 9999), 9999);
         // the outermost first: 3000 by 604: 5; 5000 by 901: 6 (the other way about it were 4, then 7)
@@ -153,6 +168,12 @@ public final class TorqueTest {
         due.is("heavy(0, 19): 190 by 100", x.heavy(0, 19), 1);
         due.is("heavy(0, 9)", x.heavy(0, 9), 0);
         due.is("heavy(3, 0)", x.heavy(3, 0), 0);
+        YarnPlier full = new YarnPlier();
+        for (int i = 0; i < 16; i++) {
+            full.thread(0, 99, 0);
+        }
+        due.is("99 by 100, 16 yarns", full.heavy(15, 1), 0);
+        due.is("198 by 100, 16 yarns", full.heavy(15, 2), 1);
         due.is("heavy(0, 9999)", x.heavy(0, 9999), 999);
         // three of 19 together, not each cut
         YarnPlier y = new YarnPlier();
