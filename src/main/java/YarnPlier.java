@@ -102,7 +102,7 @@ public final class YarnPlier {
     }
 
     public int of(int yarn, int what) {
-        if (!bench.yarns.has(yarn) || !isWithin(what, TWIST, OF_BY)) {
+        if (!bench.yarns.has(yarn) || !inRange(what, TWIST, OF_BY)) {
             return VOID;
         }
         return what == OF_BY ? bench.yarns.by(yarn) : bench.yarns.fact(yarn, what);
@@ -118,7 +118,7 @@ public final class YarnPlier {
     // ---- leaves, torque, what is taken up
 
     public int leaf(int yarn, int i, int what) {
-        if (!isWithin(what, 0, 1) || !path.lead(bench.yarns, yarn, i)) {
+        if (!inRange(what, 0, 1) || !path.lead(bench.yarns, yarn, i)) {
             return VOID;
         }
         return what == 0 ? path.end : path.turnOf(bench.yarns);
@@ -134,11 +134,11 @@ public final class YarnPlier {
     }
 
     public int tally(int fibre) {
-        return isWithin(fibre, 0, FIBRES - 1) ? tallies[fibre] : BAD;
+        return inRange(fibre, 0, FIBRES - 1) ? tallies[fibre] : BAD;
     }
 
     public long kept(int yarn, int i, int part) {
-        if (!isWithin(part, 0, 1) || !path.lead(bench.yarns, yarn, i)) {
+        if (!inRange(part, 0, 1) || !path.lead(bench.yarns, yarn, i)) {
             return VOID;
         }
         long above = path.byOf(bench.yarns);
@@ -151,14 +151,14 @@ public final class YarnPlier {
     }
 
     public int needs(int yarn, int i, int yards) {
-        if (!isWithin(yards, 0, MOST_YARDS) || !path.lead(bench.yarns, yarn, i)) {
+        if (!inRange(yards, 0, MOST_YARDS) || !path.lead(bench.yarns, yarn, i)) {
             return BAD;
         }
         return path.needsFor(bench.yarns, yards);
     }
 
     public int heavy(int yarn, int yards) {
-        if (!bench.yarns.has(yarn) || !isWithin(yards, 0, MOST_YARDS)) {
+        if (!bench.yarns.has(yarn) || !inRange(yards, 0, MOST_YARDS)) {
             return BAD;
         }
         within.walk(bench.yarns, yarn, NO_YARN);
@@ -169,7 +169,7 @@ public final class YarnPlier {
     // ---- balance, plans, what can be made, yarns alike
 
     public int balance(int yarn, int at, int what) {
-        if (!bench.yarns.has(yarn) || !bench.yarns.has(at) || !isWithin(what, 0, 1)) {
+        if (!bench.yarns.has(yarn) || !bench.yarns.has(at) || !inRange(what, 0, 1)) {
             return VOID;
         }
         if (!bench.yarns.isInside(at, yarn)) {
@@ -193,7 +193,7 @@ public final class YarnPlier {
 
     public int plan(int yarn, int twist, int wish, int what) {
         if (!bench.yarns.isThread(yarn) || !canBeTold(TWIST, twist)
-                || !isWithin(wish, 0, MOST_WISH) || !isWithin(what, 0, 1)) {
+                || !inRange(wish, 0, MOST_WISH) || !inRange(what, 0, 1)) {
             return BAD;
         }
         int weight = bench.yarns.fact(yarn, WEIGHT);
@@ -231,7 +231,7 @@ public final class YarnPlier {
     }
 
     public int alike(int one, int other, int what) {
-        if (!bench.yarns.has(one) || !bench.yarns.has(other) || !isWithin(what, 0, 1)) {
+        if (!bench.yarns.has(one) || !bench.yarns.has(other) || !inRange(what, 0, 1)) {
             return BAD;
         }
         return areAlike(bench.yarns, one, other, what == 0 ? 1 : -1, 0) ? 1 : 0;
@@ -256,7 +256,7 @@ public final class YarnPlier {
             bench.layers.empty();
             return 0;
         }
-        if (!bench.yarns.has(yarn) || !isWithin(rows, 1, MOST_LAYER_ROWS) || !isWithin(way, 0, 1)) {
+        if (!bench.yarns.has(yarn) || !inRange(rows, 1, MOST_LAYER_ROWS) || !inRange(way, 0, 1)) {
             return BAD;
         }
         if (bench.layers.isFull()) {
@@ -267,7 +267,7 @@ public final class YarnPlier {
     }
 
     public int skew(int k) {
-        if (!isWithin(k, 0, bench.layers.size)) {
+        if (!inRange(k, 0, bench.layers.size)) {
             return VOID;
         }
         weighLayers();
@@ -280,7 +280,7 @@ public final class YarnPlier {
     }
 
     public int order(int k) {
-        if (!isWithin(k, -1, bench.layers.size - 1)) {
+        if (!inRange(k, -1, bench.layers.size - 1)) {
             return BAD;
         }
         weighLayers();
@@ -295,8 +295,8 @@ public final class YarnPlier {
 
     public int fits(int row, int n, int yarn, int ta, int what) {
         Yarns yarns = bench.yarns;
-        if (!rows.has(row) || !isWithin(n, 0, MOST_PLACES) || !yarns.has(yarn) || ta < 0
-                || !yarns.isThread(ta / MOST_YARNS) || !yarns.has(ta % MOST_YARNS) || !isWithin(what, 0, 2)) {
+        if (!rows.has(row) || !inRange(n, 0, MOST_PLACES) || !yarns.has(yarn) || ta < 0
+                || !yarns.isThread(ta / MOST_YARNS) || !yarns.has(ta % MOST_YARNS) || !inRange(what, 0, 2)) {
             return BAD;
         }
         int thread = ta / MOST_YARNS;
@@ -320,7 +320,7 @@ public final class YarnPlier {
     // ---- jobs
 
     public int job(int yarn, int yards) {
-        if (!bench.yarns.has(yarn) || !isWithin(yards, 1, MOST_YARDS)) {
+        if (!bench.yarns.has(yarn) || !inRange(yards, 1, MOST_YARDS)) {
             return BAD;
         }
         if (bench.yarns.isThread(yarn)) {
@@ -365,10 +365,10 @@ public final class YarnPlier {
     }
 
     public int jobOf(int i, int what) {
-        if (!isWithin(what, JOB_YARN, JOB_YARDS)) {
+        if (!inRange(what, JOB_YARN, JOB_YARDS)) {
             return BAD;
         }
-        return isWithin(i, 0, bench.jobs.size - 1) ? bench.jobs.at(i, what) : NOT;
+        return inRange(i, 0, bench.jobs.size - 1) ? bench.jobs.at(i, what) : NOT;
     }
 
     // ---- steps, the tape, rows, the image
@@ -384,7 +384,7 @@ public final class YarnPlier {
     }
 
     public int feed(int letter) {
-        if (!isWithin(letter, LEAST_BYTE, MOST_BYTE)) {
+        if (!inRange(letter, LEAST_BYTE, MOST_BYTE)) {
             return BAD;
         }
         return tape.add(letter) ? tape.size : FULL;
@@ -433,7 +433,7 @@ public final class YarnPlier {
     }
 
     public int film(int row, int n, int yarn, int at) {
-        if (!rows.has(row) || !isWithin(n, 0, MOST_PLACES) || !bench.yarns.has(yarn) || !bench.yarns.has(at)) {
+        if (!rows.has(row) || !inRange(n, 0, MOST_PLACES) || !bench.yarns.has(yarn) || !bench.yarns.has(at)) {
             return BAD;
         }
         if (!bench.yarns.isInside(at, yarn)) {
@@ -513,7 +513,7 @@ public final class YarnPlier {
     /** STOCK of the yarn behind it, or the refusal. */
     private int makeYards(int yarn, int yards) {
         Yarns yarns = bench.yarns;
-        if (!yarns.has(yarn) || !isWithin(yards, 1, MOST_YARDS)) {
+        if (!yarns.has(yarn) || !inRange(yards, 1, MOST_YARDS)) {
             return BAD;
         }
         if (yarns.isThread(yarn) || yarns.fact(yarn, STOCK) + yards > MOST_STOCK) {
@@ -565,7 +565,7 @@ public final class YarnPlier {
         tape.rewind();
         boolean refused = false;
         while (done < MOST_BYTES && !refused && tape.takeAct()) {
-            if (isDone(tape.kind)) {
+            if (doAct()) {
                 done++;
                 tape.takeSign(';');
             } else {
@@ -578,13 +578,14 @@ public final class YarnPlier {
         return refused ? REFUSED_BASE - done : done;
     }
 
-    private boolean isDone(int kind) {
+    /** false: it is refused. */
+    private boolean doAct() {
         int[] told = tape.numbers;
-        switch (kind) {
+        switch (tape.kind) {
             case 't':
                 return bench.yarns.addThread(told[0], told[1], told[2]) >= 0;
             case 'p':
-                return bench.yarns.addPlied(told, tape.found - 1, told[Math.max(0, tape.found - 1)]) >= 0;
+                return bench.yarns.addPlied(told, tape.found - 1, tape.lastNumber()) >= 0;
             case 's':
                 return bench.yarns.tell(STOCK, told[0], told[1]) >= 0;
             case 'm':
@@ -594,12 +595,12 @@ public final class YarnPlier {
         }
     }
 
-    private static boolean isWithin(int v, int least, int most) {
+    private static boolean inRange(int v, int least, int most) {
         return v >= least && v <= most;
     }
 
     private static boolean canBeTold(int what, int v) {
-        return isWithin(what, TWIST, STOCK) && isWithin(v, LEAST_TOLD[what], MOST_TOLD[what]);
+        return inRange(what, TWIST, STOCK) && inRange(v, LEAST_TOLD[what], MOST_TOLD[what]);
     }
 
     private static int cutUp(int above, int below) {
@@ -745,7 +746,7 @@ public final class YarnPlier {
             if (!canBeTold(TWIST, twist)) {
                 return BAD;
             }
-            if (!isWithin(n, FEWEST_PARTS, MOST_PARTS) || n > from.length) {
+            if (!inRange(n, FEWEST_PARTS, MOST_PARTS) || n > from.length) {
                 return STATE;
             }
             for (int i = 0; i < n; i++) {
@@ -1194,6 +1195,10 @@ public final class YarnPlier {
                 default:
                     return false;
             }
+        }
+
+        int lastNumber() {
+            return found > 0 ? numbers[found - 1] : 0;
         }
 
         boolean takeSign(char sign) {
