@@ -29,6 +29,17 @@ public final class LayersTest {
         due.is("lay(-1, ..)", x.lay(-1, -7, 99), 0);
         due.is("count(2)", x.count(2), 0);
         due.is("lay(2, 5, 0)", x.lay(2, 5, 0), 1);
+        x.set(0, 0, 1);
+        x.job(2, 1);
+        int[][] rest = {{Scenes.MIN, Scenes.MAX}, {0, 0}, {41, 2}, {1, 0}};
+        for (int[] r : rest) {
+            due.is("lay(-1, " + r[0] + ", " + r[1] + ")", x.lay(-1, r[0], r[1]), 0);
+            due.is("none", x.count(2), 0);
+        }
+        due.is("jobs stay", x.count(3), 1);
+        due.is("steps stay", x.count(4), 1);
+        due.is("lay(-1, ..) without yarns", new YarnPlier().lay(-1, 0, 0), 0);
+        due.is("lay(0, ..) without yarns", new YarnPlier().lay(0, 1, 0), -1);
     }
 
     private static void skew() {
@@ -105,18 +116,11 @@ public final class LayersTest {
         due.is("nothing changes", x.worst(), 24);
     }
 
-    private static void row(YarnPlier x, int row, int... values) {
-        x.row(row, values.length);
-        for (int i = 0; i < values.length; i++) {
-            x.put(row, i, values[i]);
-        }
-    }
-
     private static void fits() {
         due.part("promise 26");
         YarnPlier x = Scenes.cable();
         // torque of 2 by its own twist t: 10 (20 + t), 10 (t - 3), 2 t
-        row(x, 1, 170, 192, 214);
+        Scenes.row(x, 1, 170, 192, 214);
         due.is("fibres by 1 place: hemp pulls as wool up to 20", x.fits(1, 1, 2, 2, 0), 9);
         due.is("fibres by 3", x.fits(1, 3, 2, 2, 0), 1);
         due.is("fibres by 0", x.fits(1, 0, 2, 2, 0), 15);
@@ -132,7 +136,7 @@ public final class LayersTest {
         due.is("the least", x.fits(1, 3, 2, 2, 2), -2);
         due.is("by 2 it is", x.fits(1, 2, 2, 2, 0), 1);
         due.is("a thread that isn't inside: not so", x.fits(1, 1, 1, 1, 0), 0);
-        row(x, 0, 0, 10);
+        Scenes.row(x, 0, 0, 10);
         due.is("a thread that isn't inside", x.fits(0, 2, 1, 1, 0), 15);
         due.is("its weights", x.fits(0, 2, 1, 1, 1), 99);
         due.is("the least", x.fits(0, 2, 1, 1, 2), 1);
@@ -145,20 +149,20 @@ public final class LayersTest {
     private static void silk() {
         YarnPlier x = new YarnPlier();
         x.thread(2, 50, 9);
-        row(x, 0, 0, 3, 6, 9);
+        Scenes.row(x, 0, 0, 3, 6, 9);
         due.is("6 and 7 by a half", x.fits(0, 2, 0, 0, 1), 2);
         due.is("the least", x.fits(0, 2, 0, 0, 2), 6);
         due.is("one by a whole", x.fits(0, 3, 0, 0, 1), 1);
-        row(x, 0, 0, 49);
+        Scenes.row(x, 0, 0, 49);
         due.is("98 and 99", x.fits(0, 2, 0, 0, 1), 2);
-        row(x, 0, 0, 0);
+        Scenes.row(x, 0, 0, 0);
         due.is("1", x.fits(0, 2, 0, 0, 2), 1);
         due.is("1 alone", x.fits(0, 2, 0, 0, 1), 1);
     }
 
     private static void forty() {
         YarnPlier x = Scenes.cable();
-        row(x, 0, new int[40]);
+        Scenes.row(x, 0, new int[40]);
         for (int t = 0; t < 40; t++) {
             x.put(0, t, 711 + 44 * t);
         }

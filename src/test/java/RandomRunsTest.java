@@ -114,7 +114,7 @@ public final class RandomRunsTest {
             case "jobOf": return new int[] {near(0, 7), near(0, 1)};
             case "feed": return new int[] {near(32, 126)};
             case "row": return new int[] {near(0, 2), draw(2) == 0 ? near(-1, 40) : from(0, 4)};
-            case "put": return new int[] {near(0, 2), near(0, 4), from(-50, 50)};
+            case "put": return new int[] {near(0, 2), near(0, 4), near(-50, 50)};
             case "get": return new int[] {near(0, 2), near(0, 39)};
             case "film": return new int[] {near(0, 2), draw(2) == 0 ? near(0, 40) : from(0, 4), yarn, insideOf(yarn)};
             case "count": return new int[] {near(0, 6)};

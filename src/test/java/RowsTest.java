@@ -76,6 +76,12 @@ public final class RowsTest {
         due.is("its size", x.get(1, 2), Scenes.VOID);
         due.is("film(0, 0, 3, 3)", x.film(0, 0, 3, 3), 0);
         due.is("a row of none", x.put(0, 0, 0), -13);
+        x.row(0, -1);
+        due.is("of a missing one", x.film(0, 1, 1, 1), 1);
+        due.is("its place", x.get(0, 0), 0);
+        due.is("film(0, 40, 1, 1)", x.film(0, 40, 1, 1), 40);
+        due.is("the last: 5 of LINEN by 39", x.get(0, 39), 390);
+        due.is("no 40th", x.get(0, 40), Scenes.VOID);
         due.is("not inside", x.film(1, 2, 2, 3), -5);
         due.is("it stays", x.get(1, 1), 10);
         int[][] bad = {{3, 0, 3, 3}, {-1, 0, 3, 3}, {0, -1, 3, 3}, {0, 41, 3, 3}, {0, 0, 4, 3}, {0, 0, -1, 3}, {0, 0, 3, 4}, {0, 0, 3, -1}, {0, -2, 2, 3}};

@@ -55,9 +55,7 @@ public final class TextsTest {
             {"p0,1:1", "p0,1", 4}, {"p0,1:1", "p0", 2}, {"m0,1", "m", 1}, {"s0,7", "", 0}};
         for (Object[] r : rows) {
             YarnPlier x = Scenes.cable();
-            for (char letter : ((String) r[0]).toCharArray()) {
-                x.feed(letter);
-            }
+            Scenes.feed(x, (String) r[0]);
             x.wipe();
             due.is("'" + r[1] + "' behind '" + r[0] + "'", Scenes.text(x, (String) r[1]), -100 - (Integer) r[2]);
         }

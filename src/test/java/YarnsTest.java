@@ -124,6 +124,16 @@ public final class YarnsTest {
         due.is("no stock of old", x.of(0, 3), 0);
         due.is("the image stays", x.undo(), 4);
         due.is("its stock", x.of(0, 3), 500);
+        due.is("clear() of 16", Scenes.full().clear(), 16);
+        YarnPlier twice = Scenes.full();
+        twice.clear();
+        due.is("clear() once more", twice.clear(), 0);
+        due.is("none is part of anything", twice.part(0), -1);
+        due.is("none can lie", twice.lay(0, 1, 0), -1);
+        due.is("none can wait", twice.job(0, 1), -1);
+        for (int i = 0; i < 16; i++) {
+            due.is("room for " + i, twice.thread(0, 1, 1), i);
+        }
     }
 
     private static void set() {
