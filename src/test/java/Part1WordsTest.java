@@ -174,36 +174,52 @@ public final class Part1WordsTest {
         due.is("what is around a YARN that is asked itself does not matter", x.leaf(0, 0, 1), 99);
     }
 
-    private static void pull() {
-        due.part("PULL by TURN r");
-        // fibre, weight, turn, pull
-        int[][] pulls = {{0, 1, 0, 0}, {0, 99, 99, 9801}, {0, 99, -99, -9801}, {1, 1, 1, 2}, {1, 99, -99, -19602}, {1, 7, 0, 0},
-            {2, 1, 1, 0}, {2, 1, -1, 0}, {2, 1, 2, 1}, {2, 1, -2, -1}, {2, 3, 3, 4}, {2, 3, -3, -4}, {2, 99, 99, 4900}, {2, 99, -99, -4900}, {2, 2, 7, 7},
-            {3, 1, 19, 19}, {3, 1, 20, 20}, {3, 1, 21, 22}, {3, 1, -19, -19}, {3, 1, -20, -20}, {3, 1, -21, -22}, {3, 7, 25, 175 + 35},
-            {3, 7, -25, -175 - 35}, {3, 99, 99, 9801 + 99 * 79}, {3, 99, -99, -9801 - 99 * 79}, {3, 5, 0, 0}};
-        for (int[] p : pulls) {
-            due.is("fibre " + p[0] + " weight " + p[1] + " by " + p[2], one(p[0], p[1], p[2]).torque(0), p[3]);
+    /** weight, turn, pull */
+    private static void pulls(int fibre, int[][] rows) {
+        for (int[] r : rows) {
+            due.is("weight " + r[0] + " by " + r[1], one(fibre, r[0], r[1]).torque(0), r[2]);
         }
-        // twists 10, then 10 more: within it the turn is 20, by 11 more 21; a PLIED one of 2 pulls 20, 22
-        YarnPlier hemp = one(3, 1, 10);
-        Scenes.plied(hemp, 10, 0, 0);
-        due.is("HEMP by 20 of two twists", hemp.torque(1), 20 + 2 * 20);
-        hemp.set(0, 1, 11);
-        due.is("HEMP by 21 of two twists", hemp.torque(1), 22 + 2 * 22);
-        hemp.set(0, 1, -30);
-        due.is("HEMP by -20 of two twists", hemp.torque(1), -60 - 2 * 20);
-        hemp.set(0, 1, -31);
-        due.is("HEMP by -21 of two twists", hemp.torque(1), -62 - 2 * 22);
+    }
+
+    private static void pull() {
+        due.part("PULL by TURN r: of a THREAD of WEIGHT w: WOOL: w times r.");
+        pulls(0, new int[][] {{1, 0, 0}, {1, 1, 1}, {1, -1, -1}, {99, 99, 9801}, {99, -99, -9801}});
+        due.part("LINEN: twice w times r.");
+        pulls(1, new int[][] {{7, 0, 0}, {1, 1, 2}, {1, -1, -2}, {99, 99, 19602}, {99, -99, -19602}});
+        due.part("SILK: w times r by 2 (cut toward 0).");
+        pulls(2, new int[][] {{1, 0, 0}, {1, 1, 0}, {1, -1, 0}, {1, 2, 1}, {1, -2, -1}, {3, 3, 4}, {3, -3, -4}, {2, 7, 7}, {99, 99, 4900}, {99, -99, -4900}});
         // each leaf is cut on its own: 3 by 2 twice, not 6 by 2
         YarnPlier silk = one(2, 1, 3);
         Scenes.plied(silk, 0, 0, 0);
-        due.is("SILK, each cut", silk.torque(1), 2);
+        due.is("each cut", silk.torque(1), 2);
         silk.set(0, 0, -3);
-        due.is("SILK, each cut toward 0", silk.torque(1), -2);
+        due.is("each cut toward 0", silk.torque(1), -2);
+        hemp();
+        due.part("Of a PLIED one: r times how many PARTS it has.");
         for (int parts = 2; parts <= 4; parts++) {
             YarnPlier x = Scenes.twists(-99);
             Scenes.plied(x, 99, new int[parts]);
-            due.is("of a PLIED one r times its " + parts + " PARTS", x.torque(1), 99 * parts);
+            due.is("by 99", x.torque(1), 99 * parts);
+            x.set(0, 0, 99);
+            x.set(0, 1, -99);
+            due.is("by -99", x.torque(1), -99 * parts);
+            x.set(0, 0, 0);
+            x.set(0, 1, 0);
+            due.is("by 0", x.torque(1), 0);
+        }
+    }
+
+    private static void hemp() {
+        due.part("HEMP: w times r, and w times what r is beyond 20 (or below -20) more: by r 25: 25 w and 5 w; by r -25: as much below 0.");
+        pulls(3, new int[][] {{5, 0, 0}, {1, 19, 19}, {1, 20, 20}, {1, 21, 22}, {1, -19, -19}, {1, -20, -20}, {1, -21, -22},
+            {7, 25, 175 + 35}, {7, -25, -175 - 35}, {99, 20, 1980}, {99, 99, 9801 + 99 * 79}, {99, -99, -9801 - 99 * 79}});
+        // its own 10, and that of what is around it; a PLIED one of 2 pulls twice its own
+        int[][] turns = {{10, 20 + 2 * 20}, {11, 22 + 2 * 22}, {-30, -60 - 2 * 20}, {-31, -62 - 2 * 22}};
+        YarnPlier x = one(3, 1, 10);
+        Scenes.plied(x, 0, 0, 0);
+        for (int[] t : turns) {
+            x.set(0, 1, t[0]);
+            due.is("by two twists, 10 and " + t[0], x.torque(1), t[1]);
         }
     }
 

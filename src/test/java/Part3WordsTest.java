@@ -173,6 +173,54 @@ public final class Part3WordsTest {
         }
     }
 
+    private static void kinds() {
+        due.part("t FIBRE, WEIGHT, TWIST (a THREAD more)");
+        YarnPlier x = new YarnPlier();
+        due.is("two numbers", Scenes.text(x, "t3,9"), -104);
+        due.is("four numbers", Scenes.text(x, "t3,9,-7,0"), -107);
+        due.is("none came", x.count(0), 0);
+        due.is("three numbers", Scenes.text(x, "t3,9,-7"), 1);
+        due.is("FIBRE", x.of(0, 2), 3);
+        due.is("WEIGHT", x.of(0, 1), 9);
+        due.is("TWIST", x.of(0, 0), -7);
+        due.part("p, 2 to 4 YARNS, then : and a TWIST (a PLIED one more)");
+        due.is("no YARN", Scenes.text(x, "p:1"), -101);
+        due.is("1 YARN", Scenes.text(x, "p0:1"), -102);
+        due.is("2 YARNS", Scenes.text(x, "p0,0:2"), 1);
+        due.is("3 YARNS", Scenes.text(x, "p0,1,0:-3"), 1);
+        due.is("4 YARNS", Scenes.text(x, "p1,0,0,1:4"), 1);
+        due.is("5 YARNS", Scenes.text(x, "p0,0,0,0,0:5"), -108);
+        due.is("no TWIST", Scenes.text(x, "p0,0:"), -105);
+        due.is("no : ", Scenes.text(x, "p0,0"), -104);
+        due.is("two TWISTS", Scenes.text(x, "p0,0:1,1"), -106);
+        int[] twists = {-7, 2, -3, 4};
+        for (int yarn = 0; yarn < 4; yarn++) {
+            due.is("PARTS of " + yarn, x.of(yarn, 4), yarn == 0 ? 0 : yarn + 1);
+            due.is("TWIST of " + yarn, x.of(yarn, 0), twists[yarn]);
+        }
+        due.is("in their order", x.partOf(2, 1), 1);
+        due.is("the last", x.partOf(3, 3), 1);
+        due.is("no more came", x.count(0), 4);
+        due.part("s YARN, STOCK");
+        due.is("one number", Scenes.text(x, "s0"), -102);
+        due.is("three numbers", Scenes.text(x, "s0,1,1"), -104);
+        due.is("two numbers", Scenes.text(x, "s0,40"), 1);
+        due.is("STOCK", x.of(0, 3), 40);
+        due.is("0", Scenes.text(x, "s0,0") + x.of(0, 3), 1);
+        due.is("99999", Scenes.text(x, "s0,99999") + x.of(0, 3), 100000);
+        due.part("m YARN, yards (MADE)");
+        due.is("one number", Scenes.text(x, "m1"), -102);
+        due.is("three numbers", Scenes.text(x, "m1,1,1"), -104);
+        due.is("0 yards", Scenes.text(x, "m1,0"), -200);
+        due.is("10000 yards", Scenes.text(x, "m1,10000"), -200);
+        due.is("a THREAD", Scenes.text(x, "m0,1"), -200);
+        // by 996: 996 yards need 1000, twice
+        due.is("two numbers", Scenes.text(x, "m1,996"), 1);
+        due.is("MADE", x.of(1, 3), 996);
+        due.is("2000 less", x.of(0, 3), 97999);
+        due.is("STOCK lacks", Scenes.text(x, "s0,1;m1,1"), -201);
+    }
+
     private static void figures() {
         due.part("Numbers of 1 to 5 figures with a comma between; of a TWIST - ahead of it, or none. No blanks.");
         String[][] forms = {{"t#,1,1", "0"}, {"t0,#,1", "1"}, {"t0,1,#", "1"}, {"t0,1,-#", "1"}, {"p#,1:1", "0"}, {"p0,#:1", "1"}, {"p0,1,#:1", "1"},
@@ -470,6 +518,7 @@ public final class Part3WordsTest {
         about();
         tape();
         acts();
+        kinds();
         figures();
         fault();
         faultsByPattern();

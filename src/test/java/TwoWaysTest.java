@@ -1,4 +1,4 @@
-/** "SO THAT NOTHING IS READ TWO WAYS", and the sentence on refusals ahead of it, sentence by sentence. */
+/** "SO THAT NOTHING IS READ TWO WAYS", and the sentences on refusals and on 512 calls, sentence by sentence. */
 public final class TwoWaysTest {
     private static final Due due = new Due();
 
@@ -10,6 +10,20 @@ public final class TwoWaysTest {
         due.is("STATE", YarnPlier.STATE, -5);
         due.is("VOID", YarnPlier.VOID, -2147483648L);
         due.is("VOID of a long", new YarnPlier().kept(0, 0, 0), -2147483648L);
+    }
+
+    private static void calls() {
+        due.part("An object is used for at most 512 calls after it has been made");
+        YarnPlier x = Scenes.twists(5);
+        for (int call = 2; call < 512; call++) {
+            due.is("call " + call, x.set(0, 0, call % 99), call == 2 ? 5 : (call - 1) % 99);
+        }
+        due.is("call 512", x.torque(0), 511 % 99);
+        YarnPlier y = new YarnPlier();
+        for (int call = 1; call < 512; call++) {
+            due.is("call " + call, y.thread(0, 1, 1), call <= 16 ? call - 1 : -3);
+        }
+        due.is("call 512", y.clear(), 16);
     }
 
     private static void division() {
@@ -212,6 +226,7 @@ public final class TwoWaysTest {
 
     public static void main(String[] args) {
         refusals();
+        calls();
         division();
         bundle();
         bundleOfTexts();

@@ -134,6 +134,33 @@ public final class YarnsTest {
         for (int i = 0; i < 16; i++) {
             due.is("room for " + i, twice.thread(0, 1, 1), i);
         }
+        otherKinds();
+    }
+
+    /** Nothing of what had a number before clear() is left to the one that has it then. */
+    private static void otherKinds() {
+        YarnPlier x = Scenes.deep();
+        x.set(3, 0, 10);
+        x.set(3, 3, 10);
+        x.clear();
+        for (int yarn = 0; yarn < 3; yarn++) {
+            x.thread(yarn, yarn + 1, yarn);
+        }
+        Scenes.plied(x, 5, 2, 2);
+        int[][] wants = {{0, 1, 0, 0, 0, 0, 1, 1000}, {1, 2, 1, 0, 0, 0, 1, 1000}, {2, 3, 2, 0, 0, 0, 1, 1000}, {5, -1, -1, 0, 2, 1, 2, 990}};
+        for (int yarn = 0; yarn < 4; yarn++) {
+            for (int what = 0; what < 8; what++) {
+                due.is("of(" + yarn + ", " + what + ") behind clear()", x.of(yarn, what), wants[yarn][what]);
+            }
+            due.is("inside", x.inside(yarn), yarn == 3 ? 12 : 1 << yarn);
+            due.is("partOf(" + yarn + ", 0)", x.partOf(yarn, 0), yarn == 3 ? 2 : -2);
+        }
+        x.clear();
+        x.thread(3, 9, 9);
+        Scenes.plied(x, 1, 0, 0);
+        due.is("a plied one where a thread was", x.of(1, 1), -1);
+        due.is("a plied one where a thread was", x.of(1, 4), 2);
+        due.is("its weight", x.set(1, 1, 5), -10000);
     }
 
     private static void set() {
