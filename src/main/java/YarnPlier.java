@@ -398,9 +398,26 @@ public final class YarnPlier {
 
     public int read() {
         int fault = tape.firstFault();
-        int answer = fault == NO_FAULT ? doActs() : FAULT_BASE - fault;
+        if (fault != NO_FAULT) {
+            tape.size = 0;
+            return FAULT_BASE - fault;
+        }
+        int done = 0;
+        boolean refused = false;
+        tape.rewind();
+        while (done < MOST_BYTES && !refused && tape.takeAct()) {
+            if (doAct()) {
+                done++;
+                tape.takeSign(';');
+            } else {
+                refused = true;
+            }
+        }
         tape.size = 0;
-        return answer;
+        if (done > 0) {
+            steps.empty();
+        }
+        return refused ? REFUSED_BASE - done : done;
     }
 
     public int row(int row, int n) {
@@ -560,25 +577,7 @@ public final class YarnPlier {
         return true;
     }
 
-    private int doActs() {
-        int done = 0;
-        tape.rewind();
-        boolean refused = false;
-        while (done < MOST_BYTES && !refused && tape.takeAct()) {
-            if (doAct()) {
-                done++;
-                tape.takeSign(';');
-            } else {
-                refused = true;
-            }
-        }
-        if (done > 0) {
-            steps.empty();
-        }
-        return refused ? REFUSED_BASE - done : done;
-    }
-
-    /** false: it is refused. */
+    /** The act that the tape has read last. false: it is refused. */
     private boolean doAct() {
         int[] told = tape.numbers;
         switch (tape.kind) {
@@ -905,11 +904,10 @@ public final class YarnPlier {
             yarn[size] = what;
             around[size] = outer;
             turn[size] = what == at ? 0 : yarns.fact(what, TWIST);
-            moved[size] = what == at;
+            moved[size] = what == at || outer >= 0 && moved[outer];
             times[size] = 1;
             if (outer >= 0) {
                 turn[size] += turn[outer];
-                moved[size] |= moved[outer];
                 times[size] = times[outer];
             }
             size++;
